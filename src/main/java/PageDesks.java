@@ -953,6 +953,7 @@ public final class PageDesks {
             lieBehindAll(place);
         }
 
+        // From a recent one goes as from a queue: what chance does for the used ones is undone here.
         void spareUsed() {
         }
 

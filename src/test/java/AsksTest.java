@@ -117,6 +117,8 @@ public final class AsksTest {
         C.dueRow("chance", Rooms.each(0, 4, w -> x.tale(1, 1, 0, 3, 1, w)), 1, 130, 1, 0, 2);
         C.dueRow("recent", Rooms.each(0, 4, w -> x.tale(1, 1, 0, 3, 2, w)), 1, 129, 0, 1, 2);
         C.dueRow("recent, b too", Rooms.each(0, 4, w -> x.tale(1, 1, 0, 4, 2, w)), 2, 130, 7, 0, 2);
+        C.dueRow("chance, h alone", Rooms.each(0, 4, w -> x.tale(1, 1, 2, 1, 1, w)), 1, 129, 0, 0, 0);
+        C.dueRow("recent, h alone", Rooms.each(0, 4, w -> x.tale(1, 1, 2, 1, 2, w)), 1, 129, 0, 1, 0);
         C.dueRow("hits alone", Rooms.each(0, 4, w -> x.tale(1, 1, 0, 2, 2, w)), 0, 3, 1, 3, NONE);
         C.dueRow("queue stays", Rooms.each(0, 5, w -> x.ofDesk(0, w)), 0, 2, 3, 2, 0, 0);
         C.dueRow("chance stays", Rooms.each(0, 5, w -> x.ofDesk(1, w)), 1, 2, 3, 2, 1, 1);

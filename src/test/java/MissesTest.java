@@ -44,6 +44,9 @@ public final class MissesTest {
     private static void odd() {
         PageDesks x = Rooms.of(BELADY);
         C.dueRow("odd", Rooms.each(-1, 3, x::odd), UNKNOWN, 3, NONE, NONE, UNKNOWN);
+        PageDesks y = Rooms.of("d;q1;c1;r1,beebfdf");
+        C.dueRow("a chance that spares b and e misses f again", Rooms.each(1, 4, f -> y.misses(1, f)), 6, 4, 5, 4);
+        C.dueRow("odd by two", Rooms.each(0, 2, y::odd), NONE, 2, NONE);
         C.due("one ask", Rooms.of("d;q1,a").odd(0), NONE);
         C.due("without a room", new PageDesks().odd(0), UNKNOWN);
     }

@@ -82,23 +82,15 @@ public final class ReadingsTest {
         C.due("by one frame none does", x.kinds(0), 0);
         x.build(0, 3);
         C.due("by three all do", x.kinds(0), 7);
-        // by two frames: chance hits c in the end of abacbc.. unlike recent
-        PageDesks y = Rooms.of("d;c3,abcabdea");
+        PageDesks y = Rooms.of("d;c3,abcbadea");
         y.reading(0, 7, 1);
-        C.due("chance and recent part", y.kinds(0), kindsThatHit("abcabdea", 3, 7));
-    }
-
-    /** The kinds on which an ask is a hit, by what comes to desks of these kinds. */
-    private static int kindsThatHit(String line, int frames, int i) {
-        int set = 0;
-        for (int kind = 0; kind < 3; kind++) {
-            PageDesks x = Rooms.of("d;" + "qcr".charAt(kind) + frames + "," + line);
-            if (i > 0) {
-                x.come(i);
-            }
-            set |= x.come(1) == 0 ? 1 << kind : 0;
-        }
-        return set;
+        C.due("a recent alone has used a behind b", y.kinds(0), 4);
+        y.back(1);
+        y.reading(0, 7, 0);
+        C.due("the others miss a", y.kinds(0), 3);
+        PageDesks z = Rooms.of("d;r3,abcbadeb");
+        z.reading(0, 7, 1);
+        C.due("a chance alone keeps b, that came behind a", z.kinds(0), 2);
     }
 
     private static void readingsOfOthers() {
@@ -111,6 +103,11 @@ public final class ReadingsTest {
         x.build(0, 3);
         C.due("now 0 is so", x.sizes(1), 62);
         C.due("now 0 is so, for 2", x.kinds(2), 7);
+        x.reading(1, 4, 0);
+        C.due("1 hits a by more than one frame", x.sizes(1), 2);
+        C.due("1 hits a but as a queue", x.kinds(1), 1);
+        C.due("as it is, 1 hits a", x.sizes(0), 0);
+        x.back(1);
         x.reading(1, 5, 1);
         C.due("nobody hits d", x.sizes(1), 0);
         C.due("so nothing of 0 makes it so", x.sizes(0), 0);

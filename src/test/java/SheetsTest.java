@@ -21,6 +21,7 @@ public final class SheetsTest {
     private static void sheet() {
         PageDesks x = new PageDesks();
         C.due("60 bytes", x.sheet(0, 0, 60), 1);
+        C.due("the first", x.put(0, 0, 5), 1);
         C.due("the last", x.put(0, 59, 5), 1);
         C.due("no shorts", x.sheet(0, 1, 0), 1);
         C.due("there is none", x.put(0, 0, 5), -13);
@@ -41,6 +42,9 @@ public final class SheetsTest {
         x.sheet(0, 0, -1);
         x.sheet(4, 0, 1);
         C.due("no fault behind UNKNOWN", x.fault(), 0);
+        x.sheet(0, 0, -1);
+        x.sheet(0, 0, 61);
+        C.due("no fault behind OUTSIDE", x.fault(), 0);
         x.sheet(0, 0, -1);
         x.sheet(1, 0, 1);
         C.due("no fault behind a row", x.fault(), 0);
@@ -126,6 +130,7 @@ public final class SheetsTest {
         C.dueRow("the other", Rooms.each(0, 2, i -> x.cell(1, i, 2)), 9, 3, 4);
         C.dueRow("the first stays", Rooms.each(0, 4, i -> x.cell(0, i, 2)), 2, 3, 4, 3, 4);
         C.due("none", x.copy(0, 5, 1, 3, 0), 0);
+        x.copy(0, 0, 1, 0, -1);
         C.due("all", x.copy(1, 0, 0, 2, 3), 3);
         C.due("no fault", x.fault(), 0);
     }
