@@ -37,8 +37,11 @@ public final class MissesTest {
         C.due("queue by 2", y.misses(0, 2), 6);
         C.due("chance by 2", y.misses(1, 2), 5);
         C.due("recent by 2", y.misses(2, 2), 5);
-        PageDesks z = Rooms.of("d;q1,abcdefghabcdefghabcdefgh");
-        C.dueRow("eight pages round", Rooms.each(1, 8, f -> z.misses(0, f)), 24, 24, 24, 24, 24, 24, 24, 8);
+        PageDesks z = Rooms.of("d;q1;c1;r1,abcdefghabcdefghabcdefgh");
+        for (int kind = 0; kind < 3; kind++) {
+            int k = kind;
+            C.dueRow("eight pages round", Rooms.each(1, 8, f -> z.misses(k, f)), 24, 24, 24, 24, 24, 24, 24, 8);
+        }
     }
 
     private static void odd() {

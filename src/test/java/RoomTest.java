@@ -13,6 +13,7 @@ public final class RoomTest {
         refusedTextChangesNothing();
         ofDesk();
         chanceWithAllUsed();
+        chanceWithAllUsedAndLess();
         lies();
         line();
         build();
@@ -188,6 +189,16 @@ public final class RoomTest {
         C.dueRow("none is used any more", Rooms.each(0, 5, w -> x.ofDesk(0, w)), 1, 2, 6, 3, 1, 0);
         C.dueRow("its row", Rooms.each(0, 2, p -> x.lies(0, p)), 1, 2, NONE);
         C.dueRow("used, all frames taken", Rooms.each(0, 5, w -> x.ofDesk(1, w)), 1, 3, 7, 3, 2, 3);
+    }
+
+    private static void chanceWithAllUsedAndLess() {
+        PageDesks x = Rooms.of("d;c2;c3,bcbc");
+        x.come(4);
+        C.due("the first of two, none beyond them", x.ofDesk(0, 4), 1);
+        PageDesks y = Rooms.of("d;c3,abcbc");
+        y.come(5);
+        y.build(0, 2);
+        C.dueRow("two frames where there were three", Rooms.each(0, 5, w -> y.ofDesk(0, w)), 1, 2, 6, 3, 1, 6);
     }
 
     private static void lies() {
