@@ -42,10 +42,10 @@ public final class ModelTest {
             if (random.nextInt(60) == 0 || calls.isEmpty()) {
                 tellText();
             }
-            if (calls.size() < CALLS && random.nextInt(30) == 0) {
+            if (random.nextInt(30) == 0) {
                 tellPages();
             }
-            if (calls.size() < CALLS && !same(NAMES[random.nextInt(NAMES.length)])) {
+            if (!same(NAMES[random.nextInt(NAMES.length)])) {
                 System.out.println("run " + number + ": " + calls);
                 return;
             }
@@ -134,93 +134,16 @@ public final class ModelTest {
         }
     }
 
-    private boolean same(String name, int... a) {
-        StringBuilder call = new StringBuilder(name).append('(');
-        for (int i = 0; i < a.length; i++) {
-            call.append(i == 0 ? "" : ", ").append(a[i]);
+    /** What comes behind the last call that the document speaks of is left out. */
+    private boolean same(String name, int... numbers) {
+        if (calls.size() == CALLS) {
+            return true;
         }
-        calls.add(call.append(')').toString());
-        long got = answer(name, a);
-        long want = modelAnswer(name, a);
-        check.due(call.toString(), got, want);
+        String call = Calls.told(name, numbers);
+        calls.add(call);
+        long got = Calls.of(x, name, numbers);
+        long want = Calls.of(model, name, numbers);
+        check.due(call, got, want);
         return got == want;
-    }
-
-    private long answer(String name, int[] a) {
-        switch (name) {
-            case "room": return x.room(a[0], a[1], a[2], a[3]);
-            case "ofDesk": return x.ofDesk(a[0], a[1]);
-            case "lies": return x.lies(a[0], a[1]);
-            case "line": return x.line(a[0]);
-            case "build": return x.build(a[0], a[1]);
-            case "come": return x.come(a[0]);
-            case "anew": return x.anew();
-            case "ask": return x.ask(a[0]);
-            case "drop": return x.drop();
-            case "tale": return x.tale(a[0], a[1], a[2], a[3], a[4], a[5]);
-            case "misses": return x.misses(a[0], a[1]);
-            case "odd": return x.odd(a[0]);
-            case "need": return x.need(a[0], a[1]);
-            case "fewest": return x.fewest(a[0]);
-            case "latest": return x.latest(a[0], a[1]);
-            case "depth": return x.depth(a[0]);
-            case "work": return x.work(a[0], a[1]);
-            case "reading": return x.reading(a[0], a[1], a[2]);
-            case "back": return x.back(a[0]);
-            case "sizes": return x.sizes(a[0]);
-            case "kinds": return x.kinds(a[0]);
-            case "odds": return x.odds(a[0], a[1], a[2]);
-            case "sheet": return x.sheet(a[0], a[1], a[2]);
-            case "lose": return x.lose(a[0]);
-            case "put": return x.put(a[0], a[1], a[2]);
-            case "cell": return x.cell(a[0], a[1], a[2]);
-            case "copy": return x.copy(a[0], a[1], a[2], a[3], a[4]);
-            case "tell": return x.tell(a[0]);
-            case "tally": return x.tally(a[0]);
-            case "as": return x.as(a[0], a[1]);
-            case "trace": return x.trace();
-            case "fault": return x.fault();
-            case "many": return x.many(a[0]);
-            default: throw new IllegalArgumentException(name);
-        }
-    }
-
-    private long modelAnswer(String name, int[] a) {
-        switch (name) {
-            case "room": return model.room(a[0], a[1], a[2], a[3]);
-            case "ofDesk": return model.ofDesk(a[0], a[1]);
-            case "lies": return model.lies(a[0], a[1]);
-            case "line": return model.line(a[0]);
-            case "build": return model.build(a[0], a[1]);
-            case "come": return model.come(a[0]);
-            case "anew": return model.anew();
-            case "ask": return model.ask(a[0]);
-            case "drop": return model.drop();
-            case "tale": return model.tale(a[0], a[1], a[2], a[3], a[4], a[5]);
-            case "misses": return model.misses(a[0], a[1]);
-            case "odd": return model.odd(a[0]);
-            case "need": return model.need(a[0], a[1]);
-            case "fewest": return model.fewest(a[0]);
-            case "latest": return model.latest(a[0], a[1]);
-            case "depth": return model.depth(a[0]);
-            case "work": return model.work(a[0], a[1]);
-            case "reading": return model.reading(a[0], a[1], a[2]);
-            case "back": return model.back(a[0]);
-            case "sizes": return model.sizes(a[0]);
-            case "kinds": return model.kinds(a[0]);
-            case "odds": return model.odds(a[0], a[1], a[2]);
-            case "sheet": return model.sheet(a[0], a[1], a[2]);
-            case "lose": return model.lose(a[0]);
-            case "put": return model.put(a[0], a[1], a[2]);
-            case "cell": return model.cell(a[0], a[1], a[2]);
-            case "copy": return model.copy(a[0], a[1], a[2], a[3], a[4]);
-            case "tell": return model.tell(a[0]);
-            case "tally": return model.tally(a[0]);
-            case "as": return model.as(a[0], a[1]);
-            case "trace": return model.trace();
-            case "fault": return model.fault();
-            case "many": return model.many(a[0]);
-            default: throw new IllegalArgumentException(name);
-        }
     }
 }
