@@ -1,7 +1,7 @@
-/** The second part of the terms and promises 1, 3 to 6, 34: desks that are empty, full, of one frame; all that is used. */
+/** The second part of the terms, promises 1, 3 to 6, 34: desks that are empty, full, of one frame, all used. */
 public final class DesksEdgesTest {
     private static final Check C = new Check("DesksEdgesTest");
-    private static final int UNKNOWN = PageDesks.UNKNOWN, NONE = PageDesks.NONE;
+    private static final int UNKNOWN = PageDesks.UNKNOWN, OUTSIDE = PageDesks.OUTSIDE, NONE = PageDesks.NONE;
     private static final String PAGES = "abcdefgh";
 
     public static void main(String[] args) {
@@ -203,8 +203,8 @@ public final class DesksEdgesTest {
 
     private static void buildRefused() {
         PageDesks x = World.FULL.make();
-        C.dueRow("too few", Rooms.each(-1, 0, v -> x.build(0, v)), PageDesks.OUTSIDE, PageDesks.OUTSIDE);
-        C.dueRow("too many", Rooms.each(6, 8, v -> x.build(3, v)), PageDesks.OUTSIDE, PageDesks.OUTSIDE, PageDesks.OUTSIDE);
+        C.dueRow("too few", Rooms.each(-1, 0, v -> x.build(0, v)), OUTSIDE, OUTSIDE);
+        C.dueRow("too many", Rooms.each(6, 8, v -> x.build(3, v)), OUTSIDE, OUTSIDE, OUTSIDE);
         C.dueRow("5 stay", Rooms.each(0, 3, k -> x.ofDesk(k, 1)), 5, 5, 5, 5);
     }
 

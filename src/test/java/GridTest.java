@@ -1,6 +1,6 @@
 import java.util.Arrays;
 
-/** Each call with all rows of numbers at and about the limits, in each state at the edges: its answer is the model's. */
+/** Each call with all rows of numbers at and about the limits, in each state at the edges, against the model. */
 public final class GridTest {
     private static final Check C = new Check("GridTest");
     private static final int MIN = Integer.MIN_VALUE, MAX = Integer.MAX_VALUE;
@@ -8,10 +8,15 @@ public final class GridTest {
     private static final int CALLS = 200;
     private static final int[] DESK = {-1, 0, 1, 2, 3, 4}, SHEET = DESK, KIND = {-1, 0, 1, 2, 3}, LANE = KIND;
     private static final int[] WHAT = {-1, 0, 1, 2, 3, 4, 5, 6}, PLACE = WHAT, PAGE = {-1, 0, 7, 8};
-    private static final int[] ASK = {MIN, -1, 0, 1, 7, 8, 9, 22, 23, 24, MAX}, FRAMES = {MIN, -1, 0, 1, 2, 5, 6, 7, 8, 9, MAX};
-    private static final int[] UP_TO_24 = {MIN, -1, 0, 1, 2, 4, 5, 23, 24, 25, MAX}, UP_TO_8 = {MIN, -1, 0, 1, 3, 7, 8, 9, MAX};
-    private static final int[] CELL = {MIN, -1, 0, 1, 5, 6, 7, 59, 60, 61, MAX}, TALE = {MIN, -1, 0, 1, 5, 6, 19, 20, 21, MAX};
-    private static final int[] VALUE = {MIN, -32769, -32768, -129, -128, 0, 127, 128, 255, 256, 32767, 32768, 65536, MAX};
+    private static final int[] ASK = {MIN, -1, 0, 1, 7, 8, 9, 22, 23, 24, MAX};
+    private static final int[] FRAMES = {MIN, -1, 0, 1, 2, 5, 6, 7, 8, 9, MAX};
+    private static final int[] UP_TO_24 = {MIN, -1, 0, 1, 2, 4, 5, 23, 24, 25, MAX};
+    private static final int[] UP_TO_8 = {MIN, -1, 0, 1, 3, 7, 8, 9, MAX};
+    private static final int[] CELL = {MIN, -1, 0, 1, 5, 6, 7, 59, 60, 61, MAX};
+    private static final int[] TALE = {MIN, -1, 0, 1, 5, 6, 19, 20, 21, MAX};
+    private static final int[] VALUE = {
+        MIN, -32769, -32768, -129, -128, 0, 127, 128, 255, 256, 32767, 32768, 65536, MAX
+    };
     private static final int[] BIT = {MIN, -1, 0, 1, 2, MAX}, ODDS = {MIN, -1, 0, 1, 2, 3, 4, MAX};
 
     private final World world;

@@ -1,3 +1,5 @@
+import java.util.Arrays;
+
 /** Promises 12 to 18: lines of one ask and of 24, one frame and eight, nothing that is told and all that is. */
 public final class MissesEdgesTest {
     private static final Check C = new Check("MissesEdgesTest");
@@ -30,13 +32,12 @@ public final class MissesEdgesTest {
         PageDesks x = Rooms.of("d;q1;c5;r3,h");
         for (int k = 0; k < 3; k++) {
             int desk = k;
-            C.dueRow("misses on " + k, Rooms.each(0, 9, f -> x.misses(desk, f)), OUTSIDE, 1, 1, 1, 1, 1, 1, 1, 1, OUTSIDE);
+            C.dueRow("misses on " + k, Rooms.each(0, 9, f -> x.misses(desk, f)), row(10, 1, OUTSIDE));
             C.due("odd", x.odd(k), NONE);
             C.dueRow("need", Rooms.each(-1, 2, v -> x.need(desk, v)), OUTSIDE, NONE, 1, 1);
         }
-        C.dueRow("fewest", Rooms.each(0, 9, x::fewest), OUTSIDE, 1, 1, 1, 1, 1, 1, 1, 1, OUTSIDE);
-        C.dueRow("latest", Rooms.each(0, 9, f -> x.latest(f, 0)),
-            OUTSIDE, NONE, NONE, NONE, NONE, NONE, NONE, NONE, NONE, OUTSIDE);
+        C.dueRow("fewest", Rooms.each(0, 9, x::fewest), row(10, 1, OUTSIDE));
+        C.dueRow("latest", Rooms.each(0, 9, f -> x.latest(f, 0)), row(10, NONE, OUTSIDE));
         C.dueRow("depth", Rooms.each(-1, 1, x::depth), UNKNOWN, NONE, UNKNOWN);
         C.dueRow("work", Rooms.each(0, 25, w -> x.work(0, w)), row(26, 128, OUTSIDE));
     }
@@ -153,7 +154,7 @@ public final class MissesEdgesTest {
             for (int i = 0; i < 24; i++) {
                 goes += x.latest(f, i) == NONE ? 0 : 1;
             }
-            C.due("misses by " + f + ": those that make one go, and those that find a free frame", x.fewest(f), goes + f);
+            C.due("by " + f + ": whoever makes one go, and whoever finds a free frame", x.fewest(f), goes + f);
         }
     }
 
@@ -229,7 +230,7 @@ public final class MissesEdgesTest {
     /** A row that begins and ends with one number, with another in all places between. */
     private static long[] row(int length, long between, long ends) {
         long[] row = new long[length];
-        java.util.Arrays.fill(row, between);
+        Arrays.fill(row, between);
         row[0] = ends;
         row[length - 1] = ends;
         return row;

@@ -232,7 +232,8 @@ public final class SheetsEdgesTest {
         Rooms.fill(x, 1, 2, 7, 8);
         int[][] beyond = {
             {0, 0, -1}, {0, 0, MIN}, {0, 0, MAX}, {3, 0, 1}, {0, 2, 1}, {1, 0, 3}, {0, 0, 3}, {MAX, 0, 1}, {0, MAX, 1},
-            {MIN, 0, 1}, {0, MIN, 1}, {MAX, MAX, MAX}, {MIN, MIN, MIN}, {3, 2, MAX}, {1, 1, MAX}, {MAX, 0, 0}, {0, MAX, 0}
+            {MIN, 0, 1}, {0, MIN, 1}, {MAX, MAX, MAX}, {MIN, MIN, MIN}, {3, 2, MAX}, {1, 1, MAX}, {MAX, 0, 0},
+            {0, MAX, 0}
         };
         for (int[] b : beyond) {
             C.due("copy " + b[0] + " " + b[1] + " " + b[2], x.copy(0, b[0], 1, b[1], b[2]), -13);
@@ -382,9 +383,9 @@ public final class SheetsEdgesTest {
     /** A refused call that names faults came to none. */
     private static void faultBehindARefusal() {
         String[] refused = {
-            "room 4 0 0 1", "room 0 3 0 1", "tale 4 0 0 1 0 0", "tale 0 0 0 1 3 0", "tale 0 3 0 1 0 0", "tale 0 0 0 21 0 0",
-            "tale 0 0 0 1 0 5", "tale 0 0 0 1 0 0", "sheet 4 0 1", "sheet 0 3 1", "sheet 0 0 61", "put 4 0 1", "cell 4 0 0",
-            "cell 0 0 3", "copy 4 0 0 0 1", "copy 0 0 4 0 1", "as 3 0", "as 0 3"
+            "room 4 0 0 1", "room 0 3 0 1", "tale 4 0 0 1 0 0", "tale 0 0 0 1 3 0", "tale 0 3 0 1 0 0",
+            "tale 0 0 0 21 0 0", "tale 0 0 0 1 0 5", "tale 0 0 0 1 0 0", "sheet 4 0 1", "sheet 0 3 1", "sheet 0 0 61",
+            "put 4 0 1", "cell 4 0 0", "cell 0 0 3", "copy 4 0 0 0 1", "copy 0 0 4 0 1", "as 3 0", "as 0 3"
         };
         for (String call : refused) {
             PageDesks x = World.BUSY.make();
@@ -398,10 +399,12 @@ public final class SheetsEdgesTest {
     /** Calls that name no fault leave the one of the latest that does, whether they are taken or refused. */
     private static void faultBehindACallThatNamesNone() {
         String[] calls = {
-            "ofDesk 0 0", "ofDesk 3 0", "lies 0 5", "line 9", "build 0 1", "build 0 6", "come 1", "come 25", "come 24", "anew",
-            "ask 0", "ask 8", "drop", "misses 0 9", "odd 3", "need 0 25", "fewest 9", "latest 9 0", "depth 9", "work 0 25",
-            "reading 0 0 0", "reading 0 0 2", "back 9", "sizes 3", "kinds 3", "odds 0 1 0", "odds 3 1 0", "lose 0", "lose 4",
-            "tell 0", "tell 3", "tally 0", "tally 3", "trace", "fault", "many 0", "many 5"
+            "ofDesk 0 0", "ofDesk 3 0", "lies 0 0", "lies 0 5", "line 0", "line 9", "build 0 1", "build 0 6",
+            "come 1", "come 25", "come 24", "anew", "ask 0", "ask 8", "drop", "misses 0 1", "misses 0 9", "odd 0",
+            "odd 3", "need 0 0", "need 0 25", "fewest 1", "fewest 9", "latest 1 0", "latest 9 0", "depth 0",
+            "depth 9", "work 0 1", "work 0 25", "reading 0 0 0", "reading 0 0 2", "back 1", "back 9", "sizes 0",
+            "sizes 3", "kinds 0", "kinds 3", "odds 0 1 0", "odds 3 1 0", "lose 0", "lose 4", "tell 0", "tell 3",
+            "tally 0", "tally 3", "trace", "fault", "many 0", "many 5"
         };
         for (String call : calls) {
             PageDesks x = World.BUSY.make();
