@@ -11,6 +11,7 @@ public final class DesksEdgesTest {
         hitOnTheFirst();
         hitOnTheLast();
         missWithAllUsed();
+        allUsedAndNothingBeyond();
         missWithAllButTheLastUsed();
         missWithAllButTheFirstUsed();
         comesBackNotUsed();
@@ -104,6 +105,15 @@ public final class DesksEdgesTest {
         C.dueRow("recent", row(x, 2), 1, 2, 3, 4, 5);
         C.dueRow("used then", Rooms.each(0, 2, k -> x.ofDesk(k, 5)), 0, 0, 30);
         C.dueRow("would go then", Rooms.each(0, 2, k -> x.ofDesk(k, 4)), 3, 3, 1);
+    }
+
+    /** The first would go, not what an empty place beyond the row might tell. */
+    private static void allUsedAndNothingBeyond() {
+        C.dueRow("two", Rooms.each(0, 5, w -> come("d;c2,bcbc").ofDesk(0, w)), 1, 2, 6, 2, 1, 6);
+        PageDesks x = come("d;c3,abcbc");
+        C.due("three, of which a is not used", x.ofDesk(0, 4), 0);
+        x.build(0, 2);
+        C.due("two, where a has lain", x.ofDesk(0, 4), 1);
     }
 
     private static void missWithAllButTheLastUsed() {
