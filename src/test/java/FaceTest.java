@@ -26,11 +26,22 @@ public final class FaceTest {
         "@[A-Z]\\w*", "equals", "hashCode", "toString", "\\w+Exact", "System\\.(?!arraycopy)\\w+", "Thread", "Random"
     };
 
+    /** Of what the library has, all that the class takes from it; each stands in rule 4. */
+    private static final String LIBRARY = "Integer.bitCount Math.max System.arraycopy Long.MIN_VALUE";
+    private static final int MOST_PARAMETERS = 7, MOST_FIELDS = 20, MOST_LINES = 60;
+
     public static void main(String[] args) throws Exception {
         constants();
         members();
         classesInside();
-        words();
+        String code = code();
+        words(code);
+        library(code);
+        sizes(PageDesks.class);
+        for (Class<?> c : PageDesks.class.getDeclaredClasses()) {
+            sizes(c);
+        }
+        lengths(code);
         C.end();
     }
 
@@ -81,9 +92,13 @@ public final class FaceTest {
         }
     }
 
-    private static void words() throws Exception {
+    /** The source without its comments. */
+    private static String code() throws Exception {
         String source = System.getProperty("source", "src/main/java/PageDesks.java");
-        String code = Files.readString(Path.of(source)).replaceAll("(?s)/\\*.*?\\*/", "").replaceAll("//[^\n]*", "");
+        return Files.readString(Path.of(source)).replaceAll("(?s)/\\*.*?\\*/", "").replaceAll("//[^\n]*", "");
+    }
+
+    private static void words(String code) {
         for (String word : FORBIDDEN) {
             String edged = Character.isLetter(word.charAt(0)) ? "\\b" + word + "\\b" : word;
             Matcher m = Pattern.compile(edged).matcher(code);
@@ -91,6 +106,44 @@ public final class FaceTest {
             so("no " + word + (found ? ": " + m.group() : ""), !found);
         }
         so("characters 1 to 127 alone", code.chars().allMatch(c -> c > 0 && c < 128));
+    }
+
+    /** Rule 4: whatever is taken from a class by its name is the library's that is allowed, or the class's own. */
+    private static void library(String code) {
+        TreeSet<String> own = new TreeSet<>();
+        for (Class<?> c : PageDesks.class.getDeclaredClasses()) {
+            own.add(c.getSimpleName());
+        }
+        Matcher m = Pattern.compile("\\b([A-Z][a-z]\\w*)\\.(\\w+)").matcher(code);
+        while (m.find()) {
+            boolean allowed = Arrays.asList(LIBRARY.split(" ")).contains(m.group());
+            so(m.group() + " is allowed", allowed || own.contains(m.group(1)));
+        }
+        m = Pattern.compile("\\bnew (\\w+)").matcher(code);
+        while (m.find()) {
+            String made = m.group(1);
+            so("new " + made + " is of its own, or a row of ints", made.equals("int") || own.contains(made));
+        }
+    }
+
+    /** Rule 11: parameters and fields. */
+    private static void sizes(Class<?> c) {
+        for (Method m : c.getDeclaredMethods()) {
+            so(m + " has few parameters", m.getParameterCount() <= MOST_PARAMETERS);
+        }
+        long fields = Arrays.stream(c.getDeclaredFields()).filter(f -> !Modifier.isStatic(f.getModifiers())).count();
+        so(c + " has few fields", fields <= MOST_FIELDS);
+    }
+
+    /** Rule 11: how long methods are; a method begins with a line that is no class and ends with its } at its depth. */
+    private static void lengths(String code) {
+        Matcher m = Pattern.compile("(?ms)^( +)(?![^\n]*\\bclass\\b)[^\n;=]*\\)[^\n;]*\\{\n.*?^\\1\\}$").matcher(code);
+        int found = 0;
+        while (m.find()) {
+            found++;
+            so(m.group().split("\n")[0].trim() + " is short", m.group().split("\n").length <= MOST_LINES);
+        }
+        so("methods were found", found >= FACE.length);
     }
 
     private static boolean isFinalIfStatic(Field f) {
